@@ -308,13 +308,13 @@ public final class BabelMesh {
     }
 
     private void chooseAnew(int node, int destination) {
-        Radio radio = radios[node];
-        boolean hadWay = radio.hasWay(destination);
-        if (radio.takeBestWay(destination)) {
-            tellAll(node, destination);
-            if (hadWay && !radio.hasWay(destination)) {
-                askAll(node, destination);
-            }
+        if (!radios[node].takeBestWay(destination)) {
+            return;
+        }
+        tellAll(node, destination);
+        // Something is another than it was: so if there is no way now, there was one.
+        if (!radios[node].hasWay(destination)) {
+            askAll(node, destination);
         }
     }
 

@@ -6,6 +6,7 @@ public final class LinkTest {
         costChanges();
         goes();
         losesManyWays();
+        anotherNeighbour();
         staysAsItWas();
         wrongInputs();
         Check.end("LinkTest");
@@ -58,6 +59,7 @@ public final class LinkTest {
     private static void goes() {
         BabelMesh mesh = new BabelMesh();
         Check.same("none goes", mesh.link(0, 1, 0), 0);
+        Check.letters("nobody tells of that", mesh);
         mesh.link(0, 1, 5);
         mesh.link(1, 2, 3);
         mesh.run(500);
@@ -85,6 +87,24 @@ public final class LinkTest {
                 "[1, 1, 0, 4, 0, 65535]", "[2, 1, 0, 4, 1, 8]",
                 "[1, 2, 3, 0, 0, 65535]", "[2, 2, 3, 0, 1, 8]",
                 "[1, 2, 3, 1, 0, 65535]", "[2, 2, 3, 1, 1, 8]");
+    }
+
+    /** 3 has two ways to 0 that are alike but for the neighbour. */
+    private static void anotherNeighbour() {
+        BabelMesh mesh = new BabelMesh();
+        mesh.link(0, 1, 2);
+        mesh.link(0, 2, 2);
+        mesh.link(1, 3, 2);
+        mesh.link(2, 3, 2);
+        mesh.run(500);
+        Check.same("the least of both", Check.way(mesh, 3, 0), "[1, 0, 4, 0, 4]");
+        mesh.link(1, 3, 0);
+        Check.same("the other one", Check.way(mesh, 3, 0), "[2, 0, 4, 0, 4]");
+        boolean tells = false;
+        for (int i = 0; i < mesh.total(0); i++) {
+            tells |= Check.letter(mesh, i).equals("[1, 3, 2, 0, 0, 4]");
+        }
+        Check.yes("another neighbour is told of, though number and metric are the same", tells);
     }
 
     private static void staysAsItWas() {

@@ -35,6 +35,8 @@ public final class RequestTest {
         mesh.link(1, 2, 1);
         mesh.run(500);
         mesh.link(0, 1, 0);
+        Check.letters("the bound's number with FAR, one more in the request", mesh,
+                "[1, 1, 2, 0, 2, 65535]", "[2, 1, 2, 0, 3, 8]");
         mesh.run(500);
         Check.same("one neighbour", mesh.ask(1, 0), 1);
         Check.letters("one more than the bound's", mesh, "[2, 1, 2, 0, 3, 8]");

@@ -140,7 +140,7 @@ public final class RowTest {
     private static void longUse() {
         BabelMesh mesh = crowded(0);
         mesh.run(500);
-        for (int round = 0; round < 30; round++) {
+        for (int round = 0; round < 20; round++) {
             int first = mesh.renew(0);
             mesh.renew(5);
             Check.same("letters", mesh.total(0), 12);

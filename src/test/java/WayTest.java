@@ -48,6 +48,12 @@ public final class WayTest {
         mesh.run(500);
         Check.same("FAR", mesh.told(0, 1, 2, 1), 65535);
         Check.same("FAR is not good", mesh.told(0, 1, 2, 2), 0);
+        mesh.link(1, 3, 1);
+        mesh.announce(1);
+        mesh.run(500);
+        Check.same("FAR, told to one without a bound", mesh.told(3, 1, 2, 1), 65535);
+        Check.same("has no bound", mesh.way(3, 2, 3), -1);
+        Check.same("FAR is not good even then", mesh.told(3, 1, 2, 2), 0);
     }
 
     private static void traces() {
