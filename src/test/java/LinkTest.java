@@ -8,7 +8,11 @@ public final class LinkTest {
         losesManyWays();
         anotherNeighbour();
         staysAsItWas();
-        wrongInputs();
+        leastAndGreatestCost();
+        whatIsNoChange();
+        comesWithoutALostWay();
+        comesAndGoes();
+        goesAtTheLastNeighbour();
         Check.end("LinkTest");
     }
 
@@ -119,27 +123,78 @@ public final class LinkTest {
         Check.letters("a link that nobody uses goes", mesh);
     }
 
-    private static void wrongInputs() {
+    private static void leastAndGreatestCost() {
         BabelMesh mesh = new BabelMesh();
-        BabelMesh twin = new BabelMesh();
-        for (BabelMesh each : new BabelMesh[] {mesh, twin}) {
-            each.link(0, 1, 5);
-            each.run(1);
-        }
-        Check.refuses("same node", () -> mesh.link(1, 1, 5));
-        Check.refuses("node -1", () -> mesh.link(-1, 1, 5));
-        Check.refuses("node 12", () -> mesh.link(12, 1, 5));
-        Check.refuses("other node -1", () -> mesh.link(1, -1, 5));
-        Check.refuses("other node 12", () -> mesh.link(1, 12, 5));
-        Check.refuses("cost -1", () -> mesh.link(0, 1, -1));
-        Check.refuses("cost 1001", () -> mesh.link(0, 2, 1001));
-        Check.refuses("least int", () -> mesh.link(Integer.MIN_VALUE, 1, 5));
-        Check.refuses("greatest cost", () -> mesh.link(0, 2, Integer.MAX_VALUE));
-        Check.refuses("cost of itself", () -> mesh.cost(1, 1));
-        Check.refuses("cost of -1", () -> mesh.cost(-1, 1));
-        Check.refuses("cost of 12", () -> mesh.cost(12, 1));
-        Check.refuses("cost to -1", () -> mesh.cost(1, -1));
-        Check.refuses("cost to 12", () -> mesh.cost(1, 12));
-        Check.same("nothing changed", Check.view(mesh, 3), Check.view(twin, 3));
+        mesh.link(0, 1, 1);
+        mesh.link(10, 11, 1000);
+        mesh.run(500);
+        Check.same("the least", mesh.cost(0, 1), 1);
+        Check.same("the least sum", mesh.way(1, 0, 2), 1);
+        Check.same("the greatest", mesh.cost(11, 10), 1000);
+        Check.same("the greatest sum", mesh.way(11, 10, 2), 1000);
+        Check.same("from the least", mesh.link(1, 0, 1000), 1);
+        Check.same("to the greatest", mesh.way(1, 0, 2), 1000);
+        Check.same("from the greatest", mesh.link(11, 10, 1), 1000);
+        Check.same("to the least", mesh.way(11, 10, 2), 1);
+        Check.same("0 is none", mesh.link(11, 10, 0), 1);
+        Check.same("no cost", mesh.cost(11, 10), 0);
+        Check.same("no way", mesh.way(11, 10, 0), -1);
+    }
+
+    /** Letters lie in the row, nothing of which has been heard. */
+    private static BabelMesh triangle() {
+        BabelMesh mesh = new BabelMesh();
+        mesh.link(0, 1, 5);
+        mesh.link(1, 2, 3);
+        mesh.run(7);
+        mesh.link(0, 2, 1);
+        return mesh;
+    }
+
+    private static void whatIsNoChange() {
+        Check.unchanged("the cost that it has", LinkTest::triangle, mesh -> mesh.link(1, 0, 5));
+        Check.unchanged("no link goes", LinkTest::triangle, mesh -> mesh.link(1, 9, 0));
+        BabelMesh mesh = triangle();
+        Check.same("what it was", mesh.link(1, 0, 5), 5);
+        Check.same("what none was", mesh.link(1, 9, 0), 0);
+    }
+
+    /** A new neighbour hears of ways alone, not of a bound without one. */
+    private static void comesWithoutALostWay() {
+        BabelMesh mesh = new BabelMesh();
+        mesh.link(0, 1, 5);
+        mesh.run(500);
+        mesh.link(0, 1, 0);
+        Check.same("a bound and no way", Check.way(mesh, 1, 0), "[-1, -1, -1, 0, 5]");
+        mesh.link(1, 7, 2);
+        Check.letters("each itself alone", mesh, "[1, 1, 7, 1, 0, 0]", "[1, 7, 1, 7, 0, 0]");
+    }
+
+    private static void comesAndGoes() {
+        BabelMesh mesh = new BabelMesh();
+        Check.same("it was none", mesh.link(4, 9, 7), 0);
+        Check.same("it was 7", mesh.link(9, 4, 0), 7);
+        Check.same("it was none again", mesh.link(4, 9, 8), 0);
+        Check.letters("both times both tell", mesh, "[1, 4, 9, 4, 0, 0]", "[1, 9, 4, 9, 0, 0]",
+                "[1, 4, 9, 4, 0, 0]", "[1, 9, 4, 9, 0, 0]");
+        mesh.run(500);
+        Check.same("none was lost", mesh.total(3), 0);
+        mesh.link(4, 9, 0);
+        Check.same("nobody is left to be told", mesh.total(0), 0);
+        Check.same("both forget", mesh.told(4, 9, 9, 0) + mesh.told(9, 4, 4, 0), -2);
+        Check.same("both lose the way", mesh.way(4, 9, 0) + mesh.way(9, 4, 0), -2);
+        Check.same("both keep the bound", mesh.way(4, 9, 4) + mesh.way(9, 4, 4), 16);
+    }
+
+    private static void goesAtTheLastNeighbour() {
+        BabelMesh mesh = new BabelMesh();
+        mesh.link(0, 1, 5);
+        mesh.link(1, 2, 3);
+        mesh.run(500);
+        int sent = mesh.total(1);
+        mesh.link(1, 2, 0);
+        Check.same("2 has nobody to tell, 1 tells 0 and asks it", mesh.total(1), sent + 2);
+        Check.same("2 has no way", mesh.way(2, 0, 0), -1);
+        Check.same("2 has its bound", Check.way(mesh, 2, 0), "[-1, -1, -1, 0, 8]");
     }
 }

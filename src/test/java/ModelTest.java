@@ -4,11 +4,13 @@ import java.util.Random;
 
 /**
  * Long runs of chance calls, each answer compared with the model's; at the end of each run no ways
- * may go round in a ring. No object answers more than the 512 calls of the document.
+ * may go round in a ring. With that look an object answers 512 calls, as many as the document
+ * promises; but some runs start with numbers just below 65535, which takes far more.
  */
 public final class ModelTest {
     private static final int RUNS = 3000;
-    private static final int CALLS = 360;
+    private static final int CALLS = 368;
+    private static final int RUNS_AT_THE_WRAP = 30;
 
     private final BabelMesh mesh = new BabelMesh();
     private final Model model = new Model();
@@ -25,6 +27,9 @@ public final class ModelTest {
     public static void main(String[] args) {
         for (int seed = 0; seed < RUNS; seed++) {
             ModelTest test = new ModelTest(seed);
+            if (seed < RUNS_AT_THE_WRAP) {
+                test.numberAll();
+            }
             for (int i = 0; i < CALLS && !test.wrong; i++) {
                 test.step();
             }
@@ -35,6 +40,16 @@ public final class ModelTest {
             Check.yes("no ring, seed " + seed, test.noRing());
         }
         Check.end("ModelTest");
+    }
+
+    private void numberAll() {
+        for (int node = 0; node < nodes && node < 4; node++) {
+            int times = 65530 + random.nextInt(6);
+            for (int i = 0; i < times; i++) {
+                mesh.renew(node);
+                model.call("renew", node);
+            }
+        }
     }
 
     private void step() {

@@ -4,7 +4,9 @@ public final class RebootTest {
         forgetsBounds();
         forgetsWhatItPassedOn();
         losesLetters();
-        wrongInputs();
+        nothingToForget();
+        oneOfTwoEnds();
+        afterTheReboot();
         Check.end("RebootTest");
     }
 
@@ -63,18 +65,45 @@ public final class RebootTest {
         Check.same("room was there", mesh.total(2), 0);
     }
 
-    private static void wrongInputs() {
+    private static BabelMesh apart() {
         BabelMesh mesh = new BabelMesh();
-        BabelMesh twin = new BabelMesh();
-        for (BabelMesh each : new BabelMesh[] {mesh, twin}) {
-            each.link(0, 1, 5);
-            each.run(500);
-            each.link(1, 2, 5);
-        }
-        Check.refuses("node -1", () -> mesh.reboot(-1));
-        Check.refuses("node 12", () -> mesh.reboot(12));
-        Check.throwsExactly("a node with links", IllegalStateException.class, () -> mesh.reboot(1));
-        Check.throwsExactly("a node with one link", IllegalStateException.class, () -> mesh.reboot(2));
-        Check.same("nothing changed", Check.view(mesh, 3), Check.view(twin, 3));
+        mesh.link(0, 1, 1);
+        mesh.link(1, 2, 1);
+        mesh.run(500);
+        mesh.renew(1);
+        return mesh;
+    }
+
+    private static void nothingToForget() {
+        Check.same("no letter of it", apart().reboot(7), 0);
+        Check.unchanged("a node that nobody knows", RebootTest::apart, mesh -> mesh.reboot(7));
+    }
+
+    private static void oneOfTwoEnds() {
+        BabelMesh mesh = apart();
+        Check.throwsExactly("two links", IllegalStateException.class, () -> mesh.reboot(1));
+        mesh.link(0, 1, 0);
+        Check.throwsExactly("one link", IllegalStateException.class, () -> mesh.reboot(1));
+        Check.same("the end without a link", mesh.reboot(0), 1);
+        Check.same("its letter is lost", mesh.total(3), 1);
+        Check.same("the other's bound stays", Check.way(mesh, 1, 0), "[-1, -1, -1, 0, 1]");
+        mesh.link(1, 2, 0);
+        Check.yes("no link", mesh.reboot(1) > 0);
+        Check.same("all bounds are gone", mesh.way(1, 0, 3) + mesh.way(1, 2, 3), -2);
+        Check.same("the way to itself is not", Check.way(mesh, 1, 1), "[1, 1, 0, -1, -1]");
+        Check.same("no letter is left", mesh.total(0), 0);
+    }
+
+    /** A letter that was on its way would be taken when the link comes again; a lost one is not. */
+    private static void afterTheReboot() {
+        BabelMesh mesh = new BabelMesh();
+        mesh.renew(3);
+        mesh.link(3, 4, 1);
+        mesh.link(3, 4, 0);
+        Check.same("one from it, one to it", mesh.reboot(3), 2);
+        mesh.link(3, 4, 9);
+        Check.letters("new ones alone, with its old number", mesh, "[1, 3, 4, 3, 1, 0]", "[1, 4, 3, 4, 0, 0]");
+        Check.same("sent", mesh.total(1), 4);
+        Check.same("lost", mesh.total(3), 2);
     }
 }

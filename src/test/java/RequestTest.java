@@ -9,8 +9,18 @@ public final class RequestTest {
         passedOnOnce();
         ownAskingDoesNotCount();
         stepsEnd();
+        oneStepIsNotPassedOn();
+        eightStepsAndNoMore();
+        atADestinationOfAnotherNumber();
+        atANodeWithANewerWay();
+        passedOnForEachDestination();
+        passedOnForEachNode();
+        passedOnWhoeverAsks();
+        answeredIsNotPassedOn();
+        passedOnThoughLost();
+        nobodyElseToPassItOnTo();
+        asksNothingWithAWay();
         heals();
-        wrongInputs();
         Check.end("RequestTest");
     }
 
@@ -207,18 +217,154 @@ public final class RequestTest {
         Check.same("steps", mesh.trace(1, 0), 3);
     }
 
-    private static void wrongInputs() {
+    /** Linked nodes 0 .. last that know nothing of each other. */
+    private static BabelMesh deafLine(int last) {
         BabelMesh mesh = new BabelMesh();
-        BabelMesh twin = new BabelMesh();
-        for (BabelMesh each : new BabelMesh[] {mesh, twin}) {
-            each.link(0, 1, 5);
-            each.run(500);
+        for (int node = 0; node < last; node++) {
+            mesh.link(node, node + 1, 1);
         }
-        Check.refuses("for itself", () -> mesh.ask(1, 1));
-        Check.refuses("node -1", () -> mesh.ask(-1, 1));
-        Check.refuses("node 12", () -> mesh.ask(12, 1));
-        Check.refuses("destination -1", () -> mesh.ask(1, -1));
-        Check.refuses("destination 12", () -> mesh.ask(1, 12));
-        Check.same("nothing changed", Check.view(mesh, 3), Check.view(twin, 3));
+        Check.dropAll(mesh);
+        return mesh;
+    }
+
+    private static void oneStepIsNotPassedOn() {
+        BabelMesh mesh = deafLine(9);
+        mesh.ask(0, 11);
+        mesh.run(6);
+        Check.letters("2 steps", mesh, "[2, 6, 7, 11, 0, 2]");
+        Check.same("more than 1: passed on", mesh.deliver(0), 1);
+        Check.letters("1 step", mesh, "[2, 7, 8, 11, 0, 1]");
+        Check.same("not more than 1: not passed on", mesh.deliver(0), 0);
+        mesh.ask(9, 11);
+        Check.letters("the same number, with 8 steps", mesh, "[2, 9, 8, 11, 0, 8]");
+        Check.same("8 has not passed it on yet", mesh.deliver(0), 1);
+        Check.letters("now it does", mesh, "[2, 8, 7, 11, 0, 7]");
+        Check.same("7 has", mesh.deliver(0), 0);
+    }
+
+    private static void eightStepsAndNoMore() {
+        BabelMesh near = deafLine(9);
+        near.ask(0, 8);
+        Check.same("seven are passed on", near.run(7), 7);
+        Check.letters("the eighth reaches it", near, "[2, 7, 8, 8, 0, 1]");
+        Check.same("and is answered, with 1 step too", near.deliver(0), 2);
+        Check.letters("to all neighbours", near, "[1, 8, 7, 8, 0, 0]", "[1, 8, 9, 8, 0, 0]");
+        BabelMesh far = deafLine(9);
+        far.ask(0, 9);
+        Check.same("eight letters, and no ninth", far.run(500), 8);
+        Check.same("nobody heard of it", far.total(1), 18 + 8);
+    }
+
+    private static void atADestinationOfAnotherNumber() {
+        BabelMesh older = deafLine(1);
+        older.renew(0);
+        Check.dropAll(older);
+        older.ask(1, 0);
+        Check.letters("for 0", older, "[2, 1, 0, 0, 0, 8]");
+        Check.same("answered", older.deliver(0), 1);
+        Check.same("older than its own: that stays", older.way(0, 0, 1), 1);
+        Check.letters("told", older, "[1, 0, 1, 0, 1, 0]");
+    }
+
+    /** 1 has a way to 0 with that number; 2 asks it for 0, the number it asks for without a bound. */
+    private static void atANodeWithANewerWay() {
+        BabelMesh mesh = new BabelMesh();
+        mesh.renew(0);
+        mesh.link(0, 1, 4);
+        mesh.run(500);
+        mesh.link(1, 2, 1);
+        mesh.link(1, 3, 1);
+        Check.dropAll(mesh);
+        mesh.ask(2, 0);
+        Check.letters("for 0", mesh, "[2, 2, 1, 0, 0, 8]");
+        mesh.deliver(0);
+        Check.letters("told to the one that asked alone", mesh, "[1, 1, 2, 0, 1, 4]");
+    }
+
+    private static void passedOnForEachDestination() {
+        BabelMesh mesh = lineWithAskingEnd();
+        Check.same("9 is asked for", mesh.deliver(0), 1);
+        Check.dropAll(mesh);
+        mesh.ask(0, 10);
+        Check.same("10 as well, by the same number", mesh.deliver(0), 1);
+        Check.letters("passed on", mesh, "[2, 1, 2, 10, 0, 7]");
+    }
+
+    private static void passedOnForEachNode() {
+        BabelMesh mesh = deafLine(3);
+        mesh.ask(0, 9);
+        Check.same("1 passes it on", mesh.deliver(0), 1);
+        Check.same("so does 2", mesh.deliver(0), 1);
+        Check.letters("3 hears of it", mesh, "[2, 2, 3, 9, 0, 6]");
+    }
+
+    private static void passedOnWhoeverAsks() {
+        BabelMesh mesh = lineWithAskingEnd();
+        Check.same("0 asks", mesh.deliver(0), 1);
+        Check.dropAll(mesh);
+        mesh.ask(2, 9);
+        Check.letters("2 asks for the same", mesh, "[2, 2, 1, 9, 0, 8]");
+        Check.same("not passed on again", mesh.deliver(0), 0);
+    }
+
+    /** 1 has a way to 0 and tells it when 2 asks; when it has none the same request goes on. */
+    private static void answeredIsNotPassedOn() {
+        BabelMesh mesh = new BabelMesh();
+        mesh.link(0, 1, 4);
+        mesh.run(500);
+        mesh.link(1, 2, 1);
+        mesh.link(1, 3, 1);
+        Check.dropAll(mesh);
+        mesh.ask(2, 0);
+        mesh.copy(0);
+        mesh.deliver(0);
+        Check.same("answered", Check.letter(mesh, 1), "[1, 1, 2, 0, 0, 4]");
+        mesh.link(0, 1, 0);
+        int before = mesh.total(0);
+        Check.same("passed on", mesh.deliver(0), 1);
+        Check.same("to the other one", Check.letter(mesh, before - 1), "[2, 1, 3, 0, 0, 7]");
+    }
+
+    /** 3 passes a request on to 0 and 5, with room for one of both. */
+    private static void passedOnThoughLost() {
+        BabelMesh mesh = RowTest.full();
+        for (int i = 0; i < 4; i++) {
+            mesh.drop(0);
+        }
+        for (int neighbour = 4; neighbour <= 5; neighbour++) {
+            mesh.link(3, neighbour, 1);
+            mesh.drop(297);
+            mesh.drop(296);
+        }
+        mesh.ask(4, 9);
+        mesh.drop(296);
+        Check.same("4 asks 3", Check.letter(mesh, 296), "[2, 4, 3, 9, 0, 8]");
+        for (int i = 0; i < 3; i++) {
+            mesh.copy(296);
+        }
+        Check.same("full", mesh.total(0), 300);
+        Check.same("lost ones count", mesh.deliver(296), 2);
+        Check.same("the one found room", Check.letter(mesh, 299), "[2, 3, 0, 9, 0, 7]");
+        Check.same("the other one did not", mesh.total(2), 1);
+        Check.same("not a second time", mesh.deliver(296), 0);
+    }
+
+    /** The document does not tell: 1 passes it on to all neighbours but 0, who are none. */
+    private static void nobodyElseToPassItOnTo() {
+        BabelMesh mesh = deafLine(1);
+        mesh.ask(0, 9);
+        mesh.copy(0);
+        Check.same("to none", mesh.deliver(0), 0);
+        mesh.link(1, 2, 1);
+        Check.same("passed on it is", mesh.deliver(0), 0);
+    }
+
+    private static void asksNothingWithAWay() {
+        Check.unchanged("ask() with a way", RequestTest::lineWithAskingEnd, mesh -> mesh.ask(0, 2));
+        Check.unchanged("ask() without links", RequestTest::lineWithAskingEnd, mesh -> mesh.ask(5, 2));
+        BabelMesh mesh = lineWithAskingEnd();
+        Check.same("with a way", mesh.ask(0, 2), 0);
+        Check.same("without one", mesh.ask(0, 3), 1);
+        Check.same("without links", mesh.ask(5, 2), 0);
     }
 }

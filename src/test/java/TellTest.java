@@ -9,7 +9,8 @@ public final class TellTest {
         worseWordOfTheChosenOne();
         newerNumber();
         lostWay();
-        wrongInputs();
+        tellingOfItself();
+        announcesNothingKnown();
         Check.end("TellTest");
     }
 
@@ -159,17 +160,27 @@ public final class TellTest {
         Check.same("it had no way before: nothing is sent", mesh.total(0), 4);
     }
 
-    private static void wrongInputs() {
+    /** 0 comes to know an older and a newer word of itself: both are nothing. */
+    private static void tellingOfItself() {
         BabelMesh mesh = new BabelMesh();
-        BabelMesh twin = new BabelMesh();
-        for (BabelMesh each : new BabelMesh[] {mesh, twin}) {
-            each.link(0, 1, 5);
-            each.run(500);
-        }
-        Check.refuses("announce -1", () -> mesh.announce(-1));
-        Check.refuses("announce 12", () -> mesh.announce(12));
-        Check.refuses("renew -1", () -> mesh.renew(-1));
-        Check.refuses("renew 12", () -> mesh.renew(12));
-        Check.same("nothing changed", Check.view(mesh, 3), Check.view(twin, 3));
+        mesh.link(0, 1, 5);
+        mesh.run(2);
+        mesh.renew(0);
+        Check.letters("1's words of 0, and 0's of 1", mesh,
+                "[1, 1, 0, 0, 0, 5]", "[1, 0, 1, 1, 0, 5]", "[1, 0, 1, 0, 1, 0]");
+        Check.same("0 hears of itself", mesh.deliver(0), 0);
+        Check.same("1 hears of itself", mesh.deliver(0), 0);
+        Check.same("0 is as it was", Check.way(mesh, 0, 0), "[0, 1, 0, -1, -1]");
+        Check.same("1 is as it was", Check.way(mesh, 1, 1), "[1, 0, 0, -1, -1]");
+    }
+
+    private static void announcesNothingKnown() {
+        BabelMesh mesh = new BabelMesh();
+        mesh.link(11, 0, 2);
+        Check.dropAll(mesh);
+        Check.same("itself alone", mesh.announce(11), 1);
+        Check.same("itself alone", mesh.announce(0), 1);
+        Check.letters("told", mesh, "[1, 11, 0, 11, 0, 0]", "[1, 0, 11, 0, 0, 0]");
+        Check.unchanged("without links", BabelMesh::new, none -> none.announce(5));
     }
 }

@@ -1,11 +1,11 @@
-/** Promises 12 (way), 13 (told), 14 (trace), and the greatest metric. */
+/** Promises 12 (way), 13 (told) and 14 (trace). */
 public final class WayTest {
     public static void main(String[] args) {
         ways();
         tells();
         traces();
-        greatestMetric();
-        wrongInputs();
+        traceOfTwo();
+        toldByNoNeighbour();
         Check.end("WayTest");
     }
 
@@ -76,70 +76,29 @@ public final class WayTest {
         Check.same("none itself", mesh.trace(5, 11), -1);
     }
 
-    /**
-     * 1, 2 and 3 hand a way to 0 on to each other though its end is long gone: the one that loses
-     * it is cut off and rebooted before its word of that is heard. So the metric climbs.
-     */
-    private static void greatestMetric() {
+    private static void traceOfTwo() {
         BabelMesh mesh = new BabelMesh();
-        mesh.link(0, 1, 1000);
-        mesh.deliver(0);
-        int before = 0;
-        int holder = 1;
-        int fresh = 2;
-        for (int step = 2; step <= 60; step++) {
-            pass(mesh, holder, fresh, 1000);
-            mesh.link(before, holder, 0);
-            if (before != 0) {
-                mesh.reboot(before);
-            }
-            int next = before == 0 ? 3 : before;
-            before = holder;
-            holder = fresh;
-            fresh = next;
-        }
-        Check.same("60000 is not FAR", mesh.way(holder, 0, 2), 60000);
-        pass(mesh, holder, fresh, 1);
-        Check.same("told", mesh.told(fresh, holder, 0, 1), 60000);
-        Check.same("what was told is good", mesh.told(fresh, holder, 0, 2), 1);
-        Check.same("but the way is FAR", Check.way(mesh, fresh, 0), "[-1, -1, -1, -1, -1]");
-        mesh.link(before, holder, 999);
-        Check.same("59999 is a way again", Check.way(mesh, holder, 0), "[" + before + ", 0, 59999, 0, 59999]");
-        mesh.link(before, holder, 1000);
-        Check.same("60000 is a way", mesh.way(holder, 0, 2), 60000);
+        Check.same("no link", mesh.trace(0, 11), -1);
+        Check.same("itself, without links", mesh.trace(11, 11), 0);
+        mesh.link(0, 11, 1);
+        Check.same("nothing heard yet", mesh.trace(0, 11), -1);
+        mesh.run(1);
+        Check.same("11 has heard", mesh.trace(11, 0), 1);
+        Check.same("0 has not", mesh.trace(0, 11), -1);
+        mesh.run(1);
+        Check.same("now it has", mesh.trace(0, 11), 1);
     }
 
-    private static void pass(BabelMesh mesh, int holder, int fresh, int cost) {
-        int next = mesh.total(0);
-        mesh.link(holder, fresh, cost);
-        int first = holder < fresh ? next : mesh.total(0) - 2;
-        Check.same("the telling of 0", mesh.letter(first, 1), holder);
-        mesh.deliver(first);
-    }
-
-    private static void wrongInputs() {
+    /** A node that is no neighbour has told nothing, whatever it told when it was one. */
+    private static void toldByNoNeighbour() {
         BabelMesh mesh = new BabelMesh();
-        BabelMesh twin = new BabelMesh();
-        for (BabelMesh each : new BabelMesh[] {mesh, twin}) {
-            each.link(0, 1, 5);
-            each.run(3);
-        }
-        for (int node : new int[] {-1, 12}) {
-            Check.refuses("way of " + node, () -> mesh.way(node, 0, 0));
-            Check.refuses("way to " + node, () -> mesh.way(0, node, 0));
-            Check.refuses("told to " + node, () -> mesh.told(node, 1, 2, 0));
-            Check.refuses("told by " + node, () -> mesh.told(0, node, 2, 0));
-            Check.refuses("told of " + node, () -> mesh.told(0, 1, node, 0));
-            Check.refuses("trace of " + node, () -> mesh.trace(node, 0));
-            Check.refuses("trace to " + node, () -> mesh.trace(0, node));
-            Check.refuses("trace to itself, " + node, () -> mesh.trace(node, node));
-        }
-        Check.refuses("way's -1", () -> mesh.way(0, 1, -1));
-        Check.refuses("way's 5", () -> mesh.way(0, 1, 5));
-        Check.refuses("told's -1", () -> mesh.told(0, 1, 1, -1));
-        Check.refuses("told's 3", () -> mesh.told(0, 1, 1, 3));
-        Check.refuses("told by itself", () -> mesh.told(0, 0, 1, 0));
-        Check.refuses("told of itself", () -> mesh.told(0, 1, 0, 0));
-        Check.same("nothing changed", Check.view(mesh, 3), Check.view(twin, 3));
+        mesh.link(0, 1, 3);
+        mesh.run(500);
+        Check.same("by a neighbour", mesh.told(0, 1, 1, 0), 0);
+        mesh.link(0, 1, 0);
+        Check.same("number", mesh.told(0, 1, 1, 0), -1);
+        Check.same("metric", mesh.told(0, 1, 1, 1), -1);
+        Check.same("not good", mesh.told(0, 1, 1, 2), 0);
+        Check.same("by one that never was one", mesh.told(0, 11, 11, 0), -1);
     }
 }
