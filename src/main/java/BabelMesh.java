@@ -415,6 +415,7 @@ public final class BabelMesh {
                     || number == boundNumber[destination] && metric < boundMetric[destination];
         }
 
+        /** Only newer numbers are passed on, so the last one that was stands for all before it. */
         boolean hasPassedOn(int destination, int number) {
             int passed = passedNumber[destination];
             return passed != NONE && (passed == number || isNewer(passed, number));
