@@ -103,7 +103,7 @@ public final class NumberTest {
         Check.same("newer, and farther", Check.way(boundAndTold(0, 32767, 5, 9), 1, 0), "[0, 32767, 9, 32767, 9]");
         Check.same("newer by the wrap", Check.way(boundAndTold(65535, 0, 5, 9), 1, 0), "[0, 0, 9, 0, 9]");
         Check.same("half way round: stays", Check.way(boundAndTold(0, 32768, 5, 9), 1, 0), "[-1, -1, -1, 0, 5]");
-        Check.same("once round: the same number", Check.way(boundAndTold(7, 7, 5, 9), 1, 0), "[0, 7, 9, 7, 5]");
+        Check.same("the same number, and farther", Check.way(boundAndTold(7, 7, 5, 9), 1, 0), "[0, 7, 9, 7, 5]");
     }
 
     /** 0 - 1 - 2, and 1 loses its way to 0. */
