@@ -186,6 +186,7 @@ public final class RefusalTest {
             Check.refuses("full: copy " + i, () -> RowTest.full().copy(i));
             Check.unchanged("full: copy " + i, full, RowTest::full, mesh -> mesh.copy(i));
             Check.refuses("full: letter " + i, () -> RowTest.full().letter(i, 0));
+            Check.unchanged("full: letter " + i, full, RowTest::full, mesh -> mesh.letter(i, 0));
         }
         Check.same("full: letter 299", RowTest.full().letter(299, 0), 1);
         Check.same("full: drop 299", RowTest.full().drop(299), 1);
@@ -203,6 +204,7 @@ public final class RefusalTest {
         Check.refuses("empty: copy", () -> new BabelMesh().copy(0));
         Check.unchanged("empty: copy", empty, BabelMesh::new, mesh -> mesh.copy(0));
         Check.refuses("empty: letter", () -> new BabelMesh().letter(0, 0));
+        Check.unchanged("empty: letter", empty, BabelMesh::new, mesh -> mesh.letter(0, 0));
     }
 
     private static void run() {
